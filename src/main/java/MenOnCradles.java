@@ -742,10 +742,8 @@ public final class MenOnCradles {
     }
 
     private int windIn(int side, int day, int hour) {
-        if (!isSide(side) || !isDay(day) || !isHour(hour)) {
-            return 0;
-        }
-        return winds[day * HOURS + hour] >> side * 8 & 127;
+        int at = day * HOURS + hour;
+        return isBelow(at, winds.length) ? winds[at] >> side * 8 & 127 : 0;
     }
 
     /** A bit for each pane reached, twelve to a column, from the stop's own column on. */
@@ -1381,9 +1379,9 @@ public final class MenOnCradles {
         static final int PRICE = 13;
         static final int WATER = 14;
         private static final int PLACES = 15;
-        // Steps: a number as it is, then the facts, then what is done with what is on the stack.
-        static final int FACT = 10000;
-        static final int DEED = 20000;
+        // Steps are the tokens themselves: a number, a fact from here on, or what is done with the stack.
+        private static final int NUMBERS = Reader.WORD;
+        private static final int FACT = Reader.FIRST_FACT;
         // Five levels of E with four left sides open in each at most, and the part at hand.
         private static final int STACK = 32;
 
@@ -1433,16 +1431,17 @@ public final class MenOnCradles {
         }
 
         boolean isStopping(int[] facts) {
-            return isAnySo(0, stops, facts);
+            for (int i = 0; i < stops; i++) {
+                if (answer(i, facts) != 0) {
+                    return true;
+                }
+            }
+            return false;
         }
 
         boolean isQuieting(int[] facts) {
-            return isAnySo(QUIET, quiets, facts);
-        }
-
-        private boolean isAnySo(int first, int many, int[] facts) {
-            for (int i = 0; i < many; i++) {
-                if (answer(first + i, facts) != 0) {
+            for (int i = 0; i < quiets; i++) {
+                if (answer(QUIET + i, facts) != 0) {
                     return true;
                 }
             }
@@ -1451,24 +1450,23 @@ public final class MenOnCradles {
 
         /** 0 where no E was told. */
         int answer(int place, int[] facts) {
-            if (!isBelow(place, PLACES)) {
+            if (place < 0 || place >= PLACES) {
                 return 0;
             }
             int top = 0;
             for (int i = begin[place]; i < end[place] && i < length; i++) {
-                int step = steps[i];
-                if (step >= DEED) {
-                    top = applyDeed(step - DEED, top);
-                } else if (top < STACK) {
-                    stack[top] = step < FACT ? step : factAt(facts, step - FACT);
+                int fact = steps[i] - FACT;
+                if (fact >= 0 && fact < facts.length && top < STACK) {
+                    stack[top] = facts[fact];
                     top++;
+                } else if (steps[i] < NUMBERS && top < STACK) {
+                    stack[top] = steps[i];
+                    top++;
+                } else {
+                    top = applyDeed(steps[i], top);
                 }
             }
             return top > 0 ? stack[0] : 0;
-        }
-
-        private static int factAt(int[] facts, int at) {
-            return isBelow(at, facts.length) ? facts[at] : 0;
         }
 
         private int applyDeed(int deed, int top) {
@@ -1479,67 +1477,82 @@ public final class MenOnCradles {
             if (top < 2) {
                 return top;
             }
-            stack[top - 2] = joined(deed, stack[top - 2], stack[top - 1]);
-            return top - 1;
-        }
-
-        private static int joined(int deed, int a, int b) {
+            int a = stack[top - 2];
+            int b = stack[top - 1];
             switch (deed) {
-                case Reader.AND: return a != 0 && b != 0 ? 1 : 0;
-                case Reader.OR: return a != 0 || b != 0 ? 1 : 0;
-                case '<': return a < b ? 1 : 0;
-                case '=': return a == b ? 1 : 0;
-                case '+': return a + b;
-                case '-': return a - b;
-                default: return a * b;
+                case Reader.AND: stack[top - 2] = a != 0 && b != 0 ? 1 : 0; break;
+                case Reader.OR: stack[top - 2] = a != 0 || b != 0 ? 1 : 0; break;
+                case Reader.LESS: stack[top - 2] = a < b ? 1 : 0; break;
+                case Reader.EQUAL: stack[top - 2] = a == b ? 1 : 0; break;
+                case Reader.PLUS: stack[top - 2] = a + b; break;
+                case Reader.MINUS: stack[top - 2] = a - b; break;
+                default: stack[top - 2] = a * b; break;
             }
+            return top - 1;
         }
     }
 
     /** The tape, its tokens, and the reading of a rule from the left, which ends at the first fault. */
     private static final class Reader {
         static final int SIGNS = 1000;
-        // Eight signs a word; the numbers below count them. Facts stand last, in the order of Rule's.
+        // Eight signs a word; the numbers below count them, and the facts, in the order of Rule's, behind them.
         private static final String WORDS =
-            "stop    quiet   wear    price   water   rate    drill   keys    when    and     or      not     "
-            + "tower   side    floors  day     week    hour    wind    panes   hours   worn    age     ";
+            "stop    quiet   wear    price   water   rate    drill   keys    when    and     or      not     ";
+        private static final String FACTS =
+            "tower   side    floors  day     week    hour    wind    panes   hours   worn    age     ";
         private static final int WORD_SIGNS = 8;
         private static final int NUMBER_SIGNS = 4;
-        private static final int STOP = 0;
-        private static final int QUIET = 1;
-        private static final int WEAR = 2;
-        private static final int PRICE = 3;
-        private static final int WATER = 4;
-        private static final int RATE = 5;
-        private static final int DRILL = 6;
-        private static final int KEYS = 7;
-        private static final int WHEN = 8;
-        static final int AND = 9;
-        static final int OR = 10;
-        static final int NOT = 11;
-        private static final int FIRST_FACT = 12;
-        private static final int DEEPEST = 5;
 
-        private static final int AT_END = 0;
-        private static final int BAD = 1;
-        private static final int NUMBER = 2;
-        private static final int WORD = 3;
-        private static final int SIGN = 4;
+        // A token is one number: a NUMBER is as it is, a word or a sign is counted from these on.
+        static final int WORD = 10000;
+        private static final int SIGN = 20000;
+        private static final int BAD = 30000;
+        private static final int AT_END = 30001;
+
+        private static final int STOP = WORD;
+        private static final int QUIET = WORD + 1;
+        private static final int WEAR = WORD + 2;
+        private static final int PRICE = WORD + 3;
+        private static final int WATER = WORD + 4;
+        private static final int RATE = WORD + 5;
+        private static final int DRILL = WORD + 6;
+        private static final int KEYS = WORD + 7;
+        private static final int WHEN = WORD + 8;
+        static final int AND = WORD + 9;
+        static final int OR = WORD + 10;
+        static final int NOT = WORD + 11;
+        static final int FIRST_FACT = WORD + 12;
+        static final int LESS = SIGN + '<';
+        static final int EQUAL = SIGN + '=';
+        static final int PLUS = SIGN + '+';
+        static final int MINUS = SIGN + '-';
+        private static final int TIMES = SIGN + '*';
+        private static final int OPENING = SIGN + '(';
+        private static final int CLOSING = SIGN + ')';
+        private static final int SEMICOLON = SIGN + ';';
+
+        private static final int LEVEL_E = 0;
+        private static final int LEVEL_TEST = 1;
+        private static final int LEVEL_SUM = 2;
+        private static final int LEVEL_PRODUCT = 3;
+        private static final int DEEPEST = 5;
 
         private static final int CANNOT_STAND = 1;
         private static final int TWICE = 3;
         private static final int WRONG_NUMBER = 4;
         private static final int TOO_MANY = 5;
 
-        private final char[] signs = new char[SIGNS];
         int size = 0;
-        private int next;
-        private int tokenAt;
-        private int kind;
-        private int value;
-        private int fault;
-        private int toldOnce;
-        private Rule rule;
+        private final char[] signs = new char[SIGNS];
+        // The end is a token too.
+        private final int[] tokens = new int[SIGNS + 1];
+        private final int[] places = new int[SIGNS + 1];
+        private int next = 0;
+        private int last = 0;
+        private int at = 0;
+        private int token = AT_END;
+        private int fault = 0;
+        private int toldOnce = 0;
 
         void takeBytes(long bytes) {
             for (int shift = 56; shift >= 0; shift -= 8) {
@@ -1552,120 +1565,141 @@ public final class MenOnCradles {
         }
 
         /** 0, or the fault; the tape is empty then. */
-        int readInto(Rule draft) {
-            rule = draft;
+        int readInto(Rule rule) {
             rule.empty();
-            next = 0;
+            cutTokens();
+            at = 0;
+            token = tokens[0];
             fault = 0;
             toldOnce = 0;
-            takeToken();
-            readLines();
+            for (int i = 0; i <= SIGNS && fault == 0 && token != AT_END; i++) {
+                if (readLine(rule)) {
+                    pass(SEMICOLON);
+                }
+            }
             size = 0;
             return fault;
         }
 
         // -- Tokens
 
-        private void takeToken() {
-            for (int i = 0; i < SIGNS && isBlank(next); i++) {
+        private void cutTokens() {
+            last = 0;
+            next = 0;
+            for (int i = 0; i < SIGNS && next < size; i++) {
+                if (signs[next] == 10 || signs[next] == 32) {
+                    next++;
+                } else if (last < SIGNS) {
+                    places[last] = next;
+                    tokens[last] = cutToken();
+                    last++;
+                }
+            }
+            places[last] = size;
+            tokens[last] = AT_END;
+        }
+
+        private int cutToken() {
+            if (isNextWithin('a', 'z')) {
+                return cutWord();
+            }
+            if (isNextWithin('0', '9')) {
+                return cutNumber();
+            }
+            char sign = next < SIGNS ? signs[next] : ' ';
+            next++;
+            return "()<=+-*;".indexOf(sign) >= 0 ? SIGN + sign : BAD;
+        }
+
+        private boolean isNextWithin(char least, char most) {
+            return next < size && next < SIGNS && signs[next] >= least && signs[next] <= most;
+        }
+
+        private int cutWord() {
+            int from = next;
+            for (int i = 0; i < SIGNS && isNextWithin('a', 'z'); i++) {
                 next++;
             }
-            tokenAt = next;
-            if (next >= size) {
-                tokenAt = size;
-                kind = AT_END;
-            } else if (isLetter(next)) {
-                takeWord();
-            } else if (isDigit(next)) {
-                takeNumber();
-            } else {
-                takeSign();
+            if (next - from > WORD_SIGNS) {
+                return BAD;
             }
-        }
-
-        private boolean isBlank(int at) {
-            return isBelow(at, size) && (signs[at] == 10 || signs[at] == 32);
-        }
-
-        private boolean isLetter(int at) {
-            return isBelow(at, size) && isWithin(signs[at], 'a', 'z');
-        }
-
-        private boolean isDigit(int at) {
-            return isBelow(at, size) && isWithin(signs[at], '0', '9');
-        }
-
-        private void takeWord() {
-            for (int i = 0; i < SIGNS && isLetter(next); i++) {
-                next++;
+            int word = wordIn(WORDS, from);
+            if (word != NONE) {
+                return WORD + word;
             }
-            kind = next - tokenAt <= WORD_SIGNS ? WORD : BAD;
-            value = kind == WORD ? wordNumber() : NONE;
+            int fact = wordIn(FACTS, from);
+            return fact != NONE ? FIRST_FACT + fact : BAD;
         }
 
-        private int wordNumber() {
-            for (int word = 0; word * WORD_SIGNS < WORDS.length(); word++) {
-                if (isWord(word)) {
-                    return word;
+        /** Compares what is cut last, from its first sign on, filled up with blanks. */
+        private int wordIn(String words, int from) {
+            for (int w = 0; w + WORD_SIGNS <= words.length(); w += WORD_SIGNS) {
+                int alike = 0;
+                for (int i = 0; i < WORD_SIGNS; i++) {
+                    char sign = from + i < next && from + i < SIGNS ? signs[from + i] : ' ';
+                    alike += sign == words.charAt(w + i) ? 1 : 0;
+                }
+                if (alike == WORD_SIGNS) {
+                    return w / WORD_SIGNS;
                 }
             }
             return NONE;
         }
 
-        private boolean isWord(int word) {
-            for (int i = 0; i < WORD_SIGNS; i++) {
-                char sign = tokenAt + i < next ? signs[tokenAt + i] : ' ';
-                if (sign != WORDS.charAt(word * WORD_SIGNS + i)) {
-                    return false;
-                }
-            }
-            return true;
-        }
-
-        private void takeNumber() {
-            value = 0;
-            for (int i = 0; i < SIGNS && isDigit(next); i++) {
-                value = value * 10 + signs[next] - '0';
+        private int cutNumber() {
+            int from = next;
+            int number = 0;
+            for (int i = 0; i < SIGNS && isNextWithin('0', '9'); i++) {
+                number = number * 10 + signs[next] - '0';
                 next++;
             }
-            kind = next - tokenAt <= NUMBER_SIGNS ? NUMBER : BAD;
+            return next - from <= NUMBER_SIGNS ? number : BAD;
         }
 
-        private void takeSign() {
-            char sign = signs[next];
-            next++;
-            kind = "()<=+-*;".indexOf(sign) >= 0 ? SIGN : BAD;
-            value = sign;
+        private void takeToken() {
+            if (at < last) {
+                at++;
+                token = tokens[at];
+            }
         }
 
-        private boolean isAtWord(int word) {
-            return kind == WORD && value == word;
-        }
-
-        private boolean isAtSign(char sign) {
-            return kind == SIGN && value == sign;
+        private boolean isAtNumber() {
+            return token < WORD;
         }
 
         private boolean isAtFact() {
-            return kind == WORD && value >= FIRST_FACT;
+            return token >= FIRST_FACT && token < SIGN;
         }
 
-        private boolean refuse(int kindOfFault) {
-            fault = kindOfFault + 16 * tokenAt;
+        private boolean refuse(int kind) {
+            fault = kind + 16 * places[at];
             return false;
         }
 
-        private boolean passWord(int word) {
-            if (!isAtWord(word)) {
+        private boolean pass(int due) {
+            if (token != due) {
                 return refuse(CANNOT_STAND);
             }
             takeToken();
             return true;
         }
 
-        private boolean passSign(char sign) {
-            if (!isAtSign(sign)) {
+        private boolean passOnce() {
+            int bit = 1 << token - WORD;
+            if ((toldOnce & bit) != 0) {
+                return refuse(TWICE);
+            }
+            toldOnce |= bit;
+            takeToken();
+            return true;
+        }
+
+        private boolean passNumber(int most) {
+            if (!isAtNumber()) {
                 return refuse(CANNOT_STAND);
+            }
+            if (!isWithin(token, 1, most)) {
+                return refuse(WRONG_NUMBER);
             }
             takeToken();
             return true;
@@ -1673,58 +1707,40 @@ public final class MenOnCradles {
 
         // -- Lines: each answers whether it had no fault
 
-        private boolean readLines() {
-            for (int i = 0; i <= SIGNS && kind != AT_END; i++) {
-                if (!readLine() || !passSign(';')) {
-                    return false;
-                }
-            }
-            return true;
-        }
-
-        private boolean readLine() {
-            switch (kind == WORD ? value : NONE) {
-                case STOP: return readStop();
-                case QUIET: return readQuiet();
-                case WEAR: return passOnce(WEAR) && readPlace(Rule.WEAR);
-                case PRICE: return passOnce(PRICE) && readPlace(Rule.PRICE);
-                case WATER: return passOnce(WATER) && readPlace(Rule.WATER);
-                case RATE: return passOnce(RATE) && readRate();
-                case DRILL: return passOnce(DRILL) && readDrill();
-                case KEYS: return readKeys();
+        private boolean readLine(Rule rule) {
+            switch (token) {
+                case STOP: return readStop(rule);
+                case QUIET: return readQuiet(rule);
+                case WEAR: return passOnce() && readE(rule, Rule.WEAR);
+                case PRICE: return passOnce() && readE(rule, Rule.PRICE);
+                case WATER: return passOnce() && readE(rule, Rule.WATER);
+                case RATE: return passOnce() && readRate(rule);
+                case DRILL: return passOnce() && readDrill(rule);
+                case KEYS: return readKeys(rule);
                 default: return refuse(CANNOT_STAND);
             }
         }
 
-        private boolean readStop() {
+        private boolean readStop(Rule rule) {
             if (rule.stops >= Rule.LIKES) {
                 return refuse(TOO_MANY);
             }
             takeToken();
             rule.stops++;
-            return passWord(WHEN) && readPlace(rule.stops - 1);
+            return pass(WHEN) && readE(rule, rule.stops - 1);
         }
 
-        private boolean readQuiet() {
+        private boolean readQuiet(Rule rule) {
             if (rule.quiets >= Rule.LIKES) {
                 return refuse(TOO_MANY);
             }
             takeToken();
             rule.quiets++;
-            return passWord(WHEN) && readPlace(Rule.QUIET + rule.quiets - 1);
+            return pass(WHEN) && readE(rule, Rule.QUIET + rule.quiets - 1);
         }
 
-        private boolean passOnce(int word) {
-            if (hasBit(toldOnce, word)) {
-                return refuse(TWICE);
-            }
-            toldOnce |= 1 << word;
-            takeToken();
-            return true;
-        }
-
-        private boolean readRate() {
-            int told = value;
+        private boolean readRate(Rule rule) {
+            int told = token;
             if (!passNumber(12)) {
                 return false;
             }
@@ -1732,8 +1748,8 @@ public final class MenOnCradles {
             return true;
         }
 
-        private boolean readDrill() {
-            int told = value;
+        private boolean readDrill(Rule rule) {
+            int told = token;
             if (!passNumber(99)) {
                 return false;
             }
@@ -1741,122 +1757,60 @@ public final class MenOnCradles {
             return true;
         }
 
-        private boolean passNumber(int most) {
-            if (kind != NUMBER) {
-                return refuse(CANNOT_STAND);
-            }
-            if (!isWithin(value, 1, most)) {
-                return refuse(WRONG_NUMBER);
-            }
-            takeToken();
-            return true;
-        }
-
-        private boolean readKeys() {
-            if (!passOnce(KEYS)) {
-                return false;
-            }
+        private boolean readKeys(Rule rule) {
             rule.keys = true;
-            return true;
+            return passOnce();
         }
 
-        private boolean readPlace(int place) {
+        private boolean readE(Rule rule, int place) {
             rule.open(place);
-            boolean good = readE(0);
+            boolean good = readLevel(rule, LEVEL_E, 0);
             rule.close(place);
             return good;
         }
 
-        // -- E and its parts; depth counts the nots and ( ) around
+        // -- The levels of an E, down to its parts; depth counts the nots and ( ) around
 
-        private boolean readE(int depth) {
-            if (!readTest(depth)) {
-                return false;
+        private boolean readLevel(Rule rule, int level, int depth) {
+            if (level > LEVEL_PRODUCT) {
+                return readPart(rule, depth);
             }
-            for (int i = 0; i < SIGNS && (isAtWord(AND) || isAtWord(OR)); i++) {
-                int deed = value;
+            boolean good = readLevel(rule, level + 1, depth);
+            // A TEST has one < or = at most.
+            int most = level == LEVEL_TEST ? 1 : SIGNS;
+            for (int i = 0; i < most && good && isAtJoint(level); i++) {
+                int deed = token;
                 takeToken();
-                if (!readTest(depth)) {
-                    return false;
-                }
-                rule.addStep(Rule.DEED + deed);
+                good = readLevel(rule, level + 1, depth);
+                rule.addStep(deed);
             }
-            return true;
+            return good;
         }
 
-        private boolean readTest(int depth) {
-            if (!readSum(depth)) {
-                return false;
+        private boolean isAtJoint(int level) {
+            switch (level) {
+                case LEVEL_E: return token == AND || token == OR;
+                case LEVEL_TEST: return token == LESS || token == EQUAL;
+                case LEVEL_SUM: return token == PLUS || token == MINUS;
+                default: return token == TIMES;
             }
-            if (!isAtSign('<') && !isAtSign('=')) {
-                return true;
-            }
-            int deed = value;
-            takeToken();
-            if (!readSum(depth)) {
-                return false;
-            }
-            rule.addStep(Rule.DEED + deed);
-            return true;
         }
 
-        private boolean readSum(int depth) {
-            if (!readProduct(depth)) {
-                return false;
-            }
-            for (int i = 0; i < SIGNS && (isAtSign('+') || isAtSign('-')); i++) {
-                int deed = value;
-                takeToken();
-                if (!readProduct(depth)) {
-                    return false;
-                }
-                rule.addStep(Rule.DEED + deed);
-            }
-            return true;
-        }
-
-        private boolean readProduct(int depth) {
-            if (!readPart(depth)) {
-                return false;
-            }
-            for (int i = 0; i < SIGNS && isAtSign('*'); i++) {
-                takeToken();
-                if (!readPart(depth)) {
-                    return false;
-                }
-                rule.addStep(Rule.DEED + '*');
-            }
-            return true;
-        }
-
-        private boolean readPart(int depth) {
-            boolean nested = isAtWord(NOT) || isAtSign('(');
-            if (!nested && kind != NUMBER && !isAtFact()) {
+        private boolean readPart(Rule rule, int depth) {
+            int first = token;
+            if (first != NOT && first != OPENING && !isAtNumber() && !isAtFact()) {
                 return refuse(CANNOT_STAND);
             }
             if (depth >= DEEPEST) {
                 return refuse(TOO_MANY);
             }
-            if (nested) {
-                return isAtSign('(') ? readBraced(depth) : readNot(depth);
+            takeToken();
+            if (first == OPENING) {
+                return readLevel(rule, LEVEL_E, depth + 1) && pass(CLOSING);
             }
-            rule.addStep(kind == NUMBER ? value : Rule.FACT + value - FIRST_FACT);
-            takeToken();
-            return true;
-        }
-
-        private boolean readBraced(int depth) {
-            takeToken();
-            return readE(depth + 1) && passSign(')');
-        }
-
-        private boolean readNot(int depth) {
-            takeToken();
-            if (!readPart(depth + 1)) {
-                return false;
-            }
-            rule.addStep(Rule.DEED + NOT);
-            return true;
+            boolean good = first != NOT || readPart(rule, depth + 1);
+            rule.addStep(first);
+            return good;
         }
     }
 
@@ -1880,6 +1834,7 @@ public final class MenOnCradles {
         private final int[] lastWeek = new int[PEOPLE];
         private int elderSize = 0;
         private int otherSize = 0;
+        private boolean isPaired = false;
 
         People() {
             Arrays.fill(drilled, NONE);
@@ -1887,6 +1842,7 @@ public final class MenOnCradles {
 
         void setElder(int person, boolean yes) {
             elders = yes ? elders | 1 << person : elders & ~(1 << person);
+            isPaired = false;
         }
 
         boolean isElder(int person) {
@@ -1901,12 +1857,16 @@ public final class MenOnCradles {
             if (isPerson(a) && isPerson(b)) {
                 together[a * PEOPLE + b] = n;
                 together[b * PEOPLE + a] = n;
+                isPaired = false;
             }
         }
 
         // -- Gangs
 
         void pairUp() {
+            if (isPaired) {
+                return;
+            }
             listPeople();
             for (int i = otherSize; i >= 0; i--) {
                 for (int used = 0; used < 1 << elderSize; used++) {
@@ -1914,6 +1874,7 @@ public final class MenOnCradles {
                 }
             }
             choosePartners();
+            isPaired = true;
         }
 
         private void listPeople() {
@@ -2095,6 +2056,7 @@ public final class MenOnCradles {
 
         int size = 0;
         long fixedWorth = UNKNOWN;
+        private long cameWorth = UNKNOWN;
         private int fixedRow = 0;
         private int most = 2;
         private final int[] sideOf = new int[WANTED];
@@ -2107,6 +2069,7 @@ public final class MenOnCradles {
         private final long[] known = new long[PLAN_DAYS * SETS];
         private final long[] worthOnDays = new long[SIDES * DAY_SETS];
         private final long[] odds = new long[PLAN_DAYS + 1];
+        private final int[] worthOfTimes = new int[PLAN_DAYS + 1];
         private int bestRow = 0;
         private long bestRowWorth = 0;
 
@@ -2123,6 +2086,7 @@ public final class MenOnCradles {
         private void forget() {
             Arrays.fill(known, UNKNOWN);
             fixedWorth = UNKNOWN;
+            cameWorth = UNKNOWN;
         }
 
         int addWanted(int side, int worth) {
@@ -2154,6 +2118,7 @@ public final class MenOnCradles {
             int at = day * SIDES + side;
             if (isBelow(at, cameTens.length)) {
                 cameTens[at] = yes ? 10 : 0;
+                cameWorth = UNKNOWN;
             }
         }
 
@@ -2256,8 +2221,10 @@ public final class MenOnCradles {
 
         private void findRow(int[] tens) {
             for (int side = 0; side < SIDES; side++) {
+                weighTimes(side);
                 for (int days = 0; days < DAY_SETS; days++) {
-                    worthOnDays[side * DAY_SETS + days] = worthOn(tens, side, days);
+                    weighOdds(tens, side, days);
+                    worthOnDays[side * DAY_SETS + days] = worthByOdds();
                 }
             }
             bestRow = 0;
@@ -2285,8 +2252,20 @@ public final class MenOnCradles {
             return sum;
         }
 
-        /** In parts of 100,000: by how many of these days can be worked. */
-        private long worthOn(int[] tens, int side, int days) {
+        /** What a side is worth by how many times it can be worked. */
+        private void weighTimes(int side) {
+            int left = SETS - 1;
+            int worth = 0;
+            for (int k = 0; k <= PLAN_DAYS; k++) {
+                worthOfTimes[k] = worth;
+                int done = doneOf(left, side);
+                worth += worthOfAll(done);
+                left &= ~done;
+            }
+        }
+
+        /** Of 100,000: how many times a side can be worked on these days. */
+        private void weighOdds(int[] tens, int side, int days) {
             Arrays.fill(odds, 0);
             odds[0] = 1;
             for (int day = 0; day < PLAN_DAYS; day++) {
@@ -2296,14 +2275,12 @@ public final class MenOnCradles {
                 }
                 odds[0] *= 10 - ten;
             }
+        }
+
+        private long worthByOdds() {
             long sum = 0;
-            int left = SETS - 1;
-            int worth = 0;
             for (int k = 0; k <= PLAN_DAYS; k++) {
-                sum += odds[k] * worth;
-                int done = doneOf(left, side);
-                worth += worthOfAll(done);
-                left &= ~done;
+                sum += odds[k] * worthOfTimes[k];
             }
             return sum;
         }
@@ -2333,8 +2310,11 @@ public final class MenOnCradles {
         }
 
         int worthAtMost() {
-            findRow(cameTens);
-            return (int) (bestRowWorth / tens(PLAN_DAYS));
+            if (cameWorth == UNKNOWN) {
+                findRow(cameTens);
+                cameWorth = bestRowWorth;
+            }
+            return (int) (cameWorth / TENS[PLAN_DAYS]);
         }
     }
 
@@ -2356,11 +2336,7 @@ public final class MenOnCradles {
         }
 
         int howMany() {
-            int n = 0;
-            for (int i = 0; i < OFFERS; i++) {
-                n += many[i] > 0 ? 1 : 0;
-            }
-            return n;
+            return Integer.bitCount(allThere());
         }
 
         int costOf(int offers) {
@@ -2371,27 +2347,30 @@ public final class MenOnCradles {
             return sum;
         }
 
-        /** The first found of equal cost is the least as bits, for they are tried in that order. */
+        /** The last found of equal cost is the least as bits, for they are tried from the greatest down. */
         int cheapest(int towers) {
-            int found = NONE;
-            int least = 0;
-            for (int offers = 0; offers < 1 << OFFERS; offers++) {
-                int sum = costOf(offers);
-                if ((found == NONE || sum < least) && areThere(offers) && isEnough(offers, towers)) {
+            int there = allThere();
+            // More offers never serve fewer: if all are not enough, no others need be tried.
+            if (!isEnough(there, towers)) {
+                return NONE;
+            }
+            int found = there;
+            int least = costOf(there);
+            for (int offers = there - 1; offers >= 0; offers--) {
+                if ((offers & ~there) == 0 && costOf(offers) <= least && isEnough(offers, towers)) {
                     found = offers;
-                    least = sum;
+                    least = costOf(offers);
                 }
             }
             return found;
         }
 
-        private boolean areThere(int offers) {
+        private int allThere() {
+            int there = 0;
             for (int i = 0; i < OFFERS; i++) {
-                if (hasBit(offers, i) && many[i] == 0) {
-                    return false;
-                }
+                there |= many[i] > 0 ? 1 << i : 0;
             }
-            return true;
+            return there;
         }
 
         /** Hall's rule: each tower has one if any group of them can be served by the offers that fit one of it. */
