@@ -82,7 +82,8 @@ public final class ComplaintTest {
         }
         Due.none("43: no complaint", x.ours(40, 0));
         Due.none("43: complaint -1", x.ours(-1, 0));
-        Due.none("43: what 2", x.ours(0, 2));
+        Due.due("43: this one is", x.ours(3, 0), 1);
+        Due.none("43: what 2", x.ours(3, 2));
         Due.none("43: what -1", x.ours(0, -1));
         MenOnCradles y = Due.ready();
         y.drop(1, 2, 1, 1, 10, 0, 1);

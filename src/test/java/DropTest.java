@@ -314,6 +314,64 @@ public final class DropTest {
         Due.due("16: three columns on", y.made(2, 8), 2);
         y.drop(0, 0, 0, 4, 9, 0, 1);
         Due.due("16: three columns back", y.made(3, 8), 3);
+        farAges();
+        oneFloorAge();
+    }
+
+    /** Two drops of width 4 that share one column alone. */
+    private static void farAges() {
+        MenOnCradles x = Due.ready();
+        Texts.rule(x, "price age;");
+        x.cradle(0, 4, 10);
+        for (int f = 0; f < 4; f++) for (int c = 0; c < 5; c++) x.block(0, 0, f, c, c != 3);
+        x.drop(0, 0, 0, 1, 8, 0, 1);
+        x.drop(0, 0, 3, 3, 8, 0, 1);
+        Due.due("16: age by the column that both reach, on", x.made(1, 8), 2);
+        x.drop(0, 0, 0, 4, 8, 0, 1);
+        Due.due("16: age by the column that both reach, back", x.made(2, 8), 1);
+        x.row(0, 0, 0, 4, 9, 0, 1);
+        x.row(0, 0, 3, 4, 10, 0, 1);
+        Due.due("53: that column once", x.tried(4), 4);
+    }
+
+    private static void oneFloorAge() {
+        MenOnCradles x = Due.ready();
+        x.tower(2, 1, 1);
+        for (int d = 1; d < 5; d++) x.leave(2, d, 0, 23);
+        Texts.rule(x, "price age;");
+        x.drop(2, 0, 0, 1, 8, 0, 1);
+        Due.due("16: one pane, never washed", x.made(0, 8), 99);
+        x.drop(2, 0, 0, 4, 8, 0, 1);
+        Due.due("16: one pane, washed", x.made(1, 8), 3);
+    }
+
+    /** A drop that is only asked about must not be seen by any other question. */
+    private static void askedAlone() {
+        MenOnCradles x = Due.ready();
+        Texts.rule(x, "price 5; water 8;");
+        x.wind(0, 1, 8, 50);
+        x.film(0, 0, 1, 1, 9, 9);
+        x.complain(0, 0, 0, 1, 8);
+        Due.due("14: it may be", x.why(0, 0, 0, 1, 8, 0, 1), 0);
+        Texts.rule(x, "stop when wind = 50;");
+        Due.due("18: asked alone", x.against(-1), 0);
+        Due.none("17: asked alone", x.washed(0, 0, 0, 0));
+        Due.due("20: asked alone", x.late(0, 0, 1, 1), 20);
+        Due.due("23: asked alone", x.scratch(0, 0, 0, 0, 0, 5, 1), 0);
+        Due.due("24: asked alone", x.bill(-1, 0, 99, 4), 0);
+        Due.due("41: asked alone", x.clashes(0), 0);
+        Due.due("43: asked alone", x.ours(0, 0), 0);
+        Due.due("44: asked alone, hours", x.band(5, 0), 0);
+        Due.due("44: asked alone, ours", x.band(5, 1), 0);
+        Due.none("45: asked alone", x.worst());
+        Due.due("46: asked alone", x.week(0, 1, 0), 0);
+        Due.due("47: asked alone", x.water(0, 0, 0, 0, 0, 99), 0);
+        Due.due("48: asked alone", x.aloft(0, 0, 99), 0);
+        Due.none("49: asked alone", x.learnt(1, 1));
+        Due.none("50: asked alone", x.gap(0));
+        Due.noSuch("16: asked alone", () -> x.made(0, 0));
+        Texts.rule(x, "");
+        Due.due("14: nor is anybody aloft by it", x.why(0, 0, 0, 1, 8, 0, 1), 0);
     }
 
     private static void promise19() {
@@ -333,6 +391,13 @@ public final class DropTest {
         x.drop(0, 0, 0, 1, 8, 0, 1);
         Texts.rule(x, "stop when 0 < worn;");
         Due.due("19: worn as it is now", x.lost(0, 2, 1), 10);
+        x.leave(0, 50, 0, 0);
+        x.leave(0, 51, 23, 23);
+        Texts.rule(x, "stop when hour = 0 and day = 50; stop when hour = 23 and day = 51;");
+        Due.due("19: the first hour", x.lost(0, 2, 50), 1);
+        Due.due("19: the last hour", x.lost(0, 2, 51), 1);
+        x.leave(0, 50, 0, 3);
+        Due.due("19: an hour with two leaves is one", x.lost(0, 2, 50), 1);
         Due.none("19: no tower", x.lost(3, 0, 1));
         Due.none("19: no side", x.lost(0, 4, 1));
         Due.none("19: day 100", x.lost(0, 0, 100));
@@ -355,6 +420,7 @@ public final class DropTest {
         promise18();
         ages();
         promise19();
+        askedAlone();
         Due.end("DropTest");
     }
 }

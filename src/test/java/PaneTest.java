@@ -73,6 +73,14 @@ public final class PaneTest {
         Due.due("21: as of LOST", x.reason(0, 0, 0, 0, 2, 2), 4);
         Texts.rule(x, "quiet when panes = 0 and age = 0 and hours = 1 and worn = 0;");
         Due.due("21: quiet as of LOST", x.reason(0, 0, 0, 0, 2, 2), 4);
+        x.leave(0, 50, 0, 0);
+        x.leave(0, 60, 23, 23);
+        Texts.rule(x, "stop when side = 1; quiet when tower = 1;");
+        Due.due("21: hour 0 alone", x.reason(0, 0, 0, 0, 50, 1), 5);
+        Due.due("21: hour 23 alone", x.reason(0, 0, 0, 0, 60, 1), 5);
+        Due.due("21: no leave between", x.reason(0, 0, 0, 0, 55, 1), 4);
+        Due.due("21: stopped on that side", x.reason(0, 1, 0, 0, 1, 1), 4);
+        Due.due("21: quiet on that tower", x.reason(1, 0, 0, 0, 1, 1), 4);
     }
 
     private static void promise22() {

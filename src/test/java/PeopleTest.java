@@ -84,6 +84,9 @@ public final class PeopleTest {
     private static void promise34() {
         MenOnCradles x = new MenOnCradles();
         bought("no tower told", x, 0, 0);
+        x.offer(7, 0, 63, 6);
+        bought("no tower told, an offer for nothing", x, 0, 0);
+        x.offer(7, 0, 63, 0);
         for (int t : new int[] {0, 2, 5}) x.tower(t, 1, 1);
         bought("no offer", x, -1, -1);
         x.offer(3, 50, 1 + 4 + 32, 2);

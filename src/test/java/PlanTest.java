@@ -69,6 +69,7 @@ public final class PlanTest {
         Due.due("29: then that", x.plan(4, 1, 2), 0);
         // Day 3 by side 0: 5/10 * (10 + 16/5) + 5/10 * 16/5; by side 1: 5/10 * (8 + 3) + 5/10 * 16/5.
         fraction("29: from the last one back", x, 3, 3, 41, 5);
+        fraction("29: asked again", x, 3, 3, 41, 5);
         Due.due("29: and the side there", x.plan(3, 3, 2), 0);
         x.chance(3, 0, 0);
         fraction("29: side 1 first", x, 3, 3, 71, 10);
@@ -108,7 +109,10 @@ public final class PlanTest {
         Due.due("30: nothing wanted", x.fixed(0), 0);
         Due.due("30: below", x.fixed(1), 1);
         for (int what = 2; what <= 6; what++) Due.due("30: side 0 is the first in order", x.fixed(what), 0);
+        Due.due("55: nothing wanted", x.hindsight(2), 0);
         x.want(3, 10);
+        Due.due("30: not what was found ahead of it", x.fixed(0), 155);
+        Due.due("55: nor that", x.hindsight(2), 10);
         x.cap(1);
         // One wanted on side 3 with 5 of ten on each of five days: 10 * (1 - 1/32).
         Due.due("30: above", x.fixed(0), 155);

@@ -222,6 +222,28 @@ public final class RuleTest {
         Due.due("12: nothing of an older one comes back", x.why(0, 0, 0, 2, 8, 2, 0), 0);
     }
 
+    /** As many tokens as there are signs, and many rules one behind the other. */
+    private static void full() {
+        MenOnCradles x = Due.ready();
+        Due.due("12: 1,000 tokens", Texts.rule(x, ";".repeat(1000)), 1);
+        Due.due("12: 1,000 tokens of one line", Texts.rule(x, "wear" + "*".repeat(996)), 1 + 16 * 4);
+        Due.due("12: no end within 1,000", Texts.rule(x, "price 1" + "+1".repeat(496) + "*"), 1 + 16 * 1000);
+        for (int i = 0; i < 4; i++) {
+            Due.due("12: 1,000 signs", Texts.rule(x, "price 1" + "+1".repeat(496) + ";"), 0);
+        }
+        x.drop(0, 0, 0, 1, 8, 0, 1);
+        Due.due("12: their sum", x.made(0, 8), 497);
+        for (int i = 0; i < 12; i++) Texts.rule(x, "keys;price 1" + "*1".repeat(10) + ";wear ;");
+        x.drop(0, 0, 0, 1, 9, 0, 1);
+        Due.due("12: faults leave it as it is", x.made(1, 8), 497);
+        Due.due("12: blanks", Texts.rule(x, " ".repeat(992) + "price 2;"), 0);
+        x.drop(0, 0, 0, 1, 10, 0, 1);
+        Due.due("12: behind blanks", x.made(2, 8), 2);
+        Due.due("12: 1,000 letters", Texts.rule(x, "a".repeat(1000)), 1);
+        Due.due("12: 1,000 digits", Texts.rule(x, "rate " + "9".repeat(995)), 1 + 16 * 5);
+        Due.due("12: lines without number", Texts.rule(x, "rate 1;drill 1;keys;wear 1;price 1;water 1;"), 0);
+    }
+
     public static void main(String[] args) {
         promise11();
         forms();
@@ -231,6 +253,7 @@ public final class RuleTest {
         depth();
         values();
         staying();
+        full();
         Due.end("RuleTest");
     }
 }
