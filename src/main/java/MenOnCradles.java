@@ -350,7 +350,7 @@ public final class MenOnCradles {
         if (what == 2) {
             return planner.firstSide(day, left);
         }
-        return inLowestTerms(planner.bestFrom(day, left), Planner.tens(Planner.PLAN_DAYS - day), what);
+        return inLowestTerms(planner.worthFrom(day, left), Planner.tens(Planner.PLAN_DAYS - day), what);
     }
 
     public long fixed(int what) throws NoSuchElementException {
@@ -2155,8 +2155,13 @@ public final class MenOnCradles {
 
         // -- Plan
 
-        /** In parts of 10 to the days that are left; the day after the last one ends the recursion. */
-        long bestFrom(int day, int left) {
+        /** In parts of 10 to the power of how many days there are from this one on. */
+        long worthFrom(int day, int left) {
+            return bestFrom(day, left);
+        }
+
+        /** The day after the last one ends the recursion. */
+        private long bestFrom(int day, int left) {
             int at = day * SETS + left;
             if (!isBelow(day, PLAN_DAYS) || !isBelow(at, known.length)) {
                 return 0;
