@@ -300,6 +300,12 @@ final class EdgesDrop {
         for (String wear : new String[] {"wear 1;", "wear 9999;", "wear 9999*9999*21+9999*4790+8416;"}) {
             Edge.is("worn to its life, [" + wear + "]", 11, worn.ruled(wear).make().why(0, 0, 0, 1, 9, 0, 1));
         }
+        for (String wear : new String[] {"", "wear 0;", "wear 0-1;", "wear 1-9999*9999*21;"}) {
+            MenOnCradles x = worn.ruled(wear).then(y -> y.drop(0, 0, 0, 1, 9, 0, 1)).make();
+            Edge.is("a drop with [" + wear + "] wears", 0, x.made(1, 7));
+            Edge.is("the rope stands no more by it", 0, x.stands(0, 1));
+            Edge.is("nor less", 11, Texts.rule(x, "wear 1;") + x.why(0, 0, 0, 1, 10, 0, 1));
+        }
         Edge.is("the other tower's is new", 0, worn.make().why(1, 0, 0, 1, 9, 0, 1));
     }
 
@@ -578,6 +584,8 @@ final class EdgesDrop {
         Edge.is("leave twice", 10, all.then(x -> x.leave(0, 1, 8, 17)).ruled("stop when 1;").make().lost(0, 0, 1));
         Edge.is("panes, age 0, hours 1", 10, all.ruled("stop when panes=0 and age=0 and hours=1;").make().lost(0, 0, 1));
         Edge.is("a quiet is none", 0, all.ruled("quiet when 1;").make().lost(0, 0, 1));
+        MenOnCradles asked = all.ruled("wear 7;").then(x -> x.drop(5, 0, 0, 1, 8, 0, 1)).ruled("stop when panes=0 and age=0 and hours=1 and worn=7 and floors=12;").make();
+        Edge.is("none of a drop is left over", 24, asked.why(1, 0, 0, 1, 20, 0, 1) == 0 ? asked.lost(5, 0, 1) : -9);
         Edge.is("each hour by its own wind", 1, all.then(x -> x.wind(0, 1, 17, 9)).ruled("stop when wind;").make().lost(0, 0, 1));
         Edge.is("worn as now", 10, all.ruled("wear 7;").then(x -> x.drop(0, 0, 0, 1, 8, 0, 1)).ruled("stop when worn=7;").make().lost(0, 0, 1));
         Edge.is("a drop is no matter", 10, all.then(x -> x.drop(0, 0, 0, 1, 8, 0, 1)).ruled("stop when 1;").make().lost(0, 0, 1));

@@ -124,6 +124,10 @@ final class EdgesHours {
         Edge.is("2 by 2 hours is equal", 2, one.then(x -> x.complain(5, 3, 11, 1, 8), x -> x.complain(5, 3, 11, 1, 8)).make().worst());
         Edge.is("1 by 2 is less", 9, one.then(x -> x.complain(5, 3, 11, 1, 8)).make().worst());
         Edge.is("3 by 2 is more", 2, one.then(x -> x.complain(5, 3, 11, 1, 8), x -> x.complain(5, 3, 11, 1, 8), x -> x.complain(5, 3, 4, 1, 9)).make().worst());
+        Edge.is("2 by 2 hours, then 1 by 1", 2, s.then(x -> x.complain(5, 3, 11, 1, 8), x -> x.complain(5, 3, 7, 1, 9), x -> x.complain(5, 3, 0, 1, 10)).make().worst());
+        Start wide = s.then(x -> x.drop(0, 1, 0, 1, 12, 0, 1), x -> x.drop(0, 1, 0, 1, 13, 0, 1), x -> x.wind(1, 1, 12, 70), x -> x.wind(1, 1, 13, 71));
+        Edge.is("2 by 2 hours, then 1 by 2", 2, wide.then(x -> x.complain(5, 3, 11, 1, 8), x -> x.complain(5, 3, 7, 1, 9), x -> x.complain(0, 1, 0, 1, 12)).make().worst());
+        Edge.is("1 by 2 hours, then 2 by 2", 7, wide.then(x -> x.complain(5, 3, 11, 1, 8), x -> x.complain(0, 1, 0, 1, 13), x -> x.complain(0, 1, 0, 1, 12)).make().worst());
         Edge.is("what is not ours is none", 9, one.times(9, (x, i) -> x.complain(1, 0, i, 1, 8)).make().worst());
         Edge.is("the wind told again", 1, one.then(x -> x.wind(3, 1, 10, 19)).make().worst());
     }

@@ -230,6 +230,7 @@ final class EdgesKey {
             Edge.is("on its weekday", 1, x.week(5, day % 7, 2));
             Edge.is("not ours", 0, x.ours(0, 0));
         }
+        Edge.is("of a tower with one floor and column", 0, Start.NEW.then(y -> y.tower(3, 1, 1)).make().complain(3, 0, 0, 0, 0));
         Start most = Start.BUSY.times(35, (x, i) -> x.complain(1, 3, i % 10, i, i % 24));
         MenOnCradles x = most.make();
         Edge.is("39 are there", 39, x.count(11));

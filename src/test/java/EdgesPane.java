@@ -161,6 +161,15 @@ final class EdgesPane {
         Edge.is("but for the first hour", 5, s.ruled("stop when 8<hour;").make().reason(0, 0, 0, 0, 1, 1));
         Edge.is("but for the last hour", 5, s.ruled("stop when hour<17;").make().reason(0, 0, 0, 0, 1, 1));
         Edge.is("free in an hour without leave", 4, s.ruled("stop when 7<hour and hour<18;").make().reason(0, 0, 0, 0, 1, 1));
+        for (int side = 0; side < 4; side++) {
+            Edge.is("stopped on side 1, side " + side, side == 1 ? 4 : 5, s.ruled("stop when side=1;").make().reason(1, side, 0, 0, 1, 1));
+            Edge.is("quiet on side 3, side " + side, side == 3 ? 4 : 5, s.ruled("quiet when side=3;").make().reason(0, side, 0, 0, 1, 1));
+        }
+        for (int t : new int[] {0, 1, 5}) Edge.is("stopped on tower 1, tower " + t, t == 1 ? 4 : 5, s.ruled("stop when tower=1;").make().reason(t, 2, 0, 0, 1, 1));
+        Edge.is("hour 0 alone", 5, s.then(x -> x.leave(0, 50, 0, 0)).make().reason(0, 0, 0, 0, 50, 1));
+        Edge.is("hour 23 alone", 5, s.then(x -> x.leave(0, 50, 23, 23)).make().reason(0, 0, 0, 0, 50, 1));
+        Edge.is("as of lost, behind a drop", 4, s.ruled("wear 3;").then(x -> x.drop(5, 0, 0, 1, 8, 0, 1), x -> x.drop(5, 0, 0, 1, 12, 0, 1))
+            .ruled("quiet when panes=0 and age=0 and hours=1 and worn=6;").then(x -> x.why(1, 0, 0, 1, 20, 0, 1)).make().reason(5, 0, 0, 2, 1, 1));
         Edge.is("as of lost", 4, s.ruled("quiet when panes=0 and age=0 and hours=1;").make().reason(0, 0, 0, 0, 1, 1));
         Edge.is("wear is no matter", 5, s.ruled("wear 9999;keys;").make().reason(0, 0, 0, 0, 1, 1));
         Edge.is("nor a film", 5, s.then(x -> x.film(0, 0, 0, 99, 0, 23)).make().reason(0, 0, 0, 0, 1, 1));
@@ -366,6 +375,10 @@ final class EdgesPane {
         Edge.is("the second of two", 2, x.drop(0, 0, 0, 1, 10, 0, 1));
         Edge.is("it stands no more", 0, x.stands(0, 5));
         Edge.is("as WHY tells", 11, x.why(0, 0, 0, 1, 11, 0, 1));
+        MenOnCradles back = Start.READY.ruled("wear 900;").then(y -> y.drop(0, 0, 0, 1, 8, 0, 1), y -> y.mark(0, false), y -> y.cradle(0, 2, 5),
+            y -> y.mark(0, true)).ruled("").make();
+        for (int wear : new int[] {1, 5, 9999}) Edge.is("worn beyond its life by going back, wear " + wear, 0, back.stands(0, wear));
+        Edge.is("not even a drop without wear", 11, back.why(0, 0, 0, 1, 9, 0, 1));
     }
 
     private static void standsOthers() {

@@ -69,6 +69,15 @@ final class EdgesPeople {
         gang("one elder more", Start.NEW.times(6, (x, p) -> x.elder(p, true)).make(), 0, 6, 7, 8, 9, -1, -1, 0, 1, 2, 3);
         gang("the greatest is not the greatest first", Start.NEW.times(8, (x, p) -> x.elder(p, true)).then(x -> x.match(0, 8, 10),
             x -> x.match(1, 8, 9), x -> x.match(0, 9, 9)).make(), 18, 9, 8, -1, -1, -1, -1, -1, -1, 1, 0);
+        MenOnCradles told = Start.NEW.then(x -> x.elder(0, true), x -> x.match(0, 9, 5), x -> x.match(1, 9, 6)).make();
+        gang("asked ahead", told, 5, 9, -1, -1, -1, -1, -1, -1, -1, -1, 0);
+        told.elder(1, true);
+        gang("an elder more", told, 6, 2, 9, 0, -1, -1, -1, -1, -1, -1, 1);
+        told.match(0, 2, 0);
+        told.match(0, 3, 1);
+        gang("told how they go together", told, 7, 3, 9, -1, 0, -1, -1, -1, -1, -1, 1);
+        told.elder(1, false);
+        gang("an elder less", told, 5, 9, -1, -1, -1, -1, -1, -1, -1, -1, 0);
         gang("as many as there are, though two bring nothing", Start.NEW.times(2, (x, p) -> x.elder(p, true)).then(x -> x.match(0, 9, 1)).make(),
             1, 9, 2, 1, -1, -1, -1, -1, -1, -1, 0);
     }
@@ -219,6 +228,11 @@ final class EdgesPeople {
         }
         MenOnCradles y = Start.NEW.then(z -> z.away(0, 0, true), z -> z.away(1, 1, true), z -> z.away(1, 2, true)).make();
         // Week 0: 1 and 2. Week 1: 0 first, never; of 2 and 1 (away) 2. Week 2: 0 and 2, for 1 is away. Week 3: 1, fewest; then 0.
+        MenOnCradles last = Start.NEW.then(z -> z.away(0, 0, true), z -> z.away(1, 0, true)).make();
+        int[] longest = {12, 3, 12, 3, 12};
+        for (int w = 0; w < 5; w++) Edge.is("the longest ago, week " + w, longest[w], last.rota(4, w));
+        int[] never = {12, 3, 48, 12, 3};
+        for (int w = 0; w < 5; w++) Edge.is("never ahead of all, week " + w, never[w], last.rota(6, w));
         int[] due = {6, 5, 5, 3};
         for (int w = 0; w < 4; w++) Edge.is("the fewest weeks, week " + w, due[w], y.rota(3, w));
     }

@@ -14,6 +14,8 @@ final class EdgesPlan {
         planOthers();
         fixed();
         fixedFirstInOrder();
+        eachRow();
+        toldSince();
         fixedOthers();
         came();
         cameOthers();
@@ -215,6 +217,54 @@ final class EdgesPlan {
         MenOnCradles sure = chanced(Start.NEW.then(y -> y.want(0, 9), y -> y.want(1, 9)), 10).make();
         int[] late = {0, 0, 0, 0, 1};
         for (int d = 0; d < 5; d++) Edge.is("side 1 as late as can be, day " + d, late[d], sure.fixed(2 + d));
+    }
+
+    /** Each row in which no side comes more than twice can be the best one, and the only one. */
+    private static void eachRow() {
+        Edge.term(30, "the row of SIDES, the first in order");
+        Start two = Start.NEW.then(x -> x.cap(1)).times(8, (x, i) -> x.want(i % 4, 10 + i));
+        for (int row = 0; row < 1024; row++) {
+            int[] times = new int[4];
+            boolean fit = true;
+            for (int d = 0; d < 5; d++) fit &= ++times[row >> 2 * d & 3] <= 2;
+            if (!fit) continue;
+            int r = row;
+            MenOnCradles x = two.times(20, (y, i) -> y.chance(i / 4, i % 4, (r >> i / 4 * 2 & 3) == i % 4 ? 10 : 0)).make();
+            for (int d = 0; d < 5; d++) Edge.is("row " + row + ", day " + d, row >> 2 * d & 3, x.fixed(2 + d));
+        }
+    }
+
+    /** What was found ahead is found anew when something is told. */
+    private static void toldSince() {
+        Edge.promise(30, "FIXED from day 0 with all, what 0: above,");
+        MenOnCradles x = chanced(Start.NEW.then(y -> y.want(1, 10)), 10).make();
+        askAll("one", x, 10, 10);
+        x.want(1, 9);
+        askAll("two", x, 19, 19);
+        x.cap(1);
+        askAll("one a day", x, 19, 19);
+        for (int i = 0; i < 20; i++) x.came(i / 4, i % 4, i >= 16);
+        askAll("the last day alone came", x, 19, 10);
+        x.cap(2);
+        askAll("two a day", x, 19, 19);
+        x.came(4, 1, false);
+        askAll("nothing came", x, 19, 0);
+        x.came(3, 1, true);
+        for (int i = 0; i < 16; i++) x.chance(i / 4, i % 4, 0);
+        Edge.is("the last day alone has a chance", 19, x.plan(0, 3, 0));
+        Edge.is("its row", 1, x.fixed(6));
+        Edge.is("at most", 19, x.hindsight(2));
+        Edge.is("by plan", 0, x.hindsight(0));
+        for (int s = 0; s < 4; s++) x.chance(4, s, 0);
+        Edge.is("no chance at all", 0, x.plan(0, 3, 0));
+        Edge.is("nor by fixed", 0, x.fixed(0));
+    }
+
+    private static void askAll(String what, MenOnCradles x, int planned, int came) {
+        int all = (1 << x.count(4)) - 1;
+        Edge.is(what + ", plan", planned, x.plan(0, all, 0));
+        Edge.is(what + ", fixed", planned, x.fixed(0));
+        Edge.is(what + ", hindsight", came, x.hindsight(2));
     }
 
     private static void fixedOthers() {

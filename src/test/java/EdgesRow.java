@@ -11,6 +11,7 @@ final class EdgesRow {
         triedSums();
         triedOnes();
         triedNothing();
+        triedMarks();
         triedOthers();
         marks();
         goneBack();
@@ -147,6 +148,26 @@ final class EdgesRow {
         }
     }
 
+    /** A mark that is laid is as it was, behind a row tried. */
+    private static void triedMarks() {
+        Edge.term(53, "Nothing is made by it.");
+        for (int m = 0; m < 4; m++) {
+            int mark = m;
+            Start s = Start.READY.ruled("wear 10;").then(x -> x.drop(0, 0, 0, 1, 8, 0, 1), x -> x.mark(mark, false), x -> x.drop(0, 0, 0, 1, 9, 0, 1),
+                x -> x.row(0, 0, 2, 1, 10, 0, 1));
+            MenOnCradles x = s.make();
+            for (int what = 0; what < 5; what++) x.tried(what);
+            Edge.is("two drops", 2, x.count(1));
+            Edge.is("worn by two", 980, x.stands(0, 1));
+            Edge.yes("back to mark " + m, x.mark(m, true));
+            Edge.is("one drop", 1, x.count(1));
+            Edge.is("worn by one", 990, x.stands(0, 1));
+            MenOnCradles none = Start.READY.then(y -> y.row(0, 0, 2, 1, 10, 0, 1)).make();
+            for (int what = 0; what < 5; what++) none.tried(what);
+            Edge.no("no mark is laid by it", none.mark(m, true));
+        }
+    }
+
     private static void triedOthers() {
         Edge.promise(53, "NoSuchElementException: another what.");
         for (Start s : new Start[] {Start.NEW, Start.BUSY}) for (int what : Edge.beyond(0, 4)) Edge.refusedNoSuch("what " + what, s, x -> x.tried(what));
@@ -177,6 +198,12 @@ final class EdgesRow {
             Edge.is("worn, the other tower", 1000, x.stands(5, 1));
             Edge.is("age as it was", 1, priceOf(x));
         }
+        MenOnCradles later = Start.NEW.then(x -> x.mark(0, false), x -> x.tower(0, 1, 1), x -> x.elder(0, true), x -> x.drill(0, 0), x -> x.drill(1, 0),
+            x -> x.leave(0, 0, 0, 0)).ruled("wear 7;").then(x -> x.drop(0, 0, 0, 0, 0, 0, 1)).make();
+        Edge.is("a tower told since, worn", 993, later.stands(0, 1));
+        Edge.yes("back to when there was none", later.mark(0, true));
+        Edge.is("the tower stays, not worn", 1000, later.stands(0, 1));
+        Edge.is("one tower", 1, later.count(0));
         MenOnCradles full = Start.DROPS59.then(x -> x.mark(3, false), x -> x.drop(0, 1, 2, 6, 17, 0, 1), x -> x.mark(0, false)).make();
         Edge.yes("back to 60", full.mark(0, true));
         Edge.is("60", 60, full.count(1));

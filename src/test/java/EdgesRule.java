@@ -15,6 +15,7 @@ final class EdgesRule {
         lines();
         stops6();
         quiets6();
+        stopsAndQuiets();
         onceEach();
         rates();
         drills();
@@ -272,6 +273,20 @@ final class EdgesRule {
         Edge.is("none does", 0, Start.READY.ruled(times(6, "quiet when 0;")).make().why(0, 0, 0, 1, 8, 0, 1));
     }
 
+    /** Each of the six and six for an hour of its own, and all else beside them. */
+    private static void stopsAndQuiets() {
+        Edge.term(12, "stop 6 at most, quiet likewise,");
+        StringBuilder rule = new StringBuilder("wear 21;");
+        for (int i = 0; i < 6; i++) rule.append("stop when hour=").append(i).append(";quiet when hour=").append(10 + i).append(';');
+        rule.append("price 31;water 41;rate 12;");
+        MenOnCradles x = Start.READY.ruled(rule.toString()).make();
+        for (int h = 0; h < 24; h++) Edge.is("hour " + h, h < 6 ? 9 : h >= 10 && h < 16 ? 10 : 0, x.why(5, 0, 0, 1, h, 0, 1));
+        Edge.is("six hours lost", 6, x.lost(5, 0, 1));
+        x.drop(5, 0, 0, 1, 16, 0, 1);
+        int[] due = {21, 31, 41};
+        for (int i = 0; i < 3; i++) Edge.is("made(0, " + (7 + i) + ")", due[i], x.made(0, 7 + i));
+    }
+
     private static void onceEach() {
         Edge.term(12, "the others once each;");
         for (String line : new String[] {"wear 1;", "price 1;", "water 1;", "rate 1;", "drill 1;", "keys;"}) {
@@ -403,6 +418,8 @@ final class EdgesRule {
         good("wear not 1 + not 2 + not 3 + not 4 + not 5 + not 6;");
         good("wear ((((1)))) * ((((2)))) * not not not not 3;");
         price("((((7)))) + not not not not 3", 8);
+        price("0or 1<2+3*(0or 1<2+3*(0or 1<2+3*(0or 1<2+3*(0or 1<2+3*4))))", 1);
+        price("9-2*(9-2*(9-2*(9-2*(9-2*3))))", 9 - 2 * (9 - 2 * (9 - 2 * (9 - 2 * (9 - 2 * 3)))));
     }
 
     private static void truth() {
@@ -498,6 +515,13 @@ final class EdgesRule {
             v -> v.nest(0, 0, 3, 4, 4, 4)).make();
         z.drop(0, 0, 3, 4, 8, 0, 1);
         Edge.is("those that never were are not reached", 1, z.made(2, 8));
+        for (int floor : Edge.ends(0, 3)) for (int column : Edge.ends(0, 1)) {
+            Start one = Start.READY.ruled("price age;");
+            for (int i = 0; i < 8; i++) { int at = i; if (i != floor * 2 + column) one = one.then(v -> v.block(0, 0, at / 2, at % 2, true)); }
+            MenOnCradles v = one.then(u -> u.drop(0, 0, 0, 1, 8, 0, 1), u -> u.drop(0, 0, 0, 5, 8, 0, 1)).make();
+            Edge.is("one pane, never washed", 99, v.made(0, 8));
+            Edge.is("one pane, washed", 4, v.made(1, 8));
+        }
     }
 
     private static void faultPlaces() {
@@ -610,5 +634,18 @@ final class EdgesRule {
         Edge.is("an empty one", 0, z.rule());
         Edge.is("is the rule then", 0, z.drop(0, 0, 0, 1, 9, 0, 1));
         for (int what = 7; what <= 9; what++) Edge.is("nothing of the one ahead, " + what, 0, z.made(0, what));
+        Start keys = Start.READY.ruled("keys;wear 3;price 5;water 7;rate 2;drill 1;quiet when 1;stop when 1;");
+        for (int between = 0; between < 4; between++) {
+            Start s = keys;
+            for (int i = 0; i < between; i++) s = s.ruled(i % 2 == 0 ? "keys" : "wear 3;price 5;water 7;stop when 1;!");
+            for (int empty = 1; empty < 4; empty++) {
+                s = s.ruled("");
+                MenOnCradles y = s.make();
+                Edge.is("of " + empty + " empty ones behind " + between + " with faults", 0, y.drop(0, 0, 0, 5, 9, 0, 1));
+                int[] due = {1, 8, 0, 0, 0};
+                for (int i = 0; i < 5; i++) Edge.is("made(0, " + (5 + i) + ")", due[i], y.made(0, 5 + i));
+                Edge.is("nothing lost", 0, y.lost(0, 0, 5));
+            }
+        }
     }
 }

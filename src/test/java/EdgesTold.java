@@ -12,6 +12,7 @@ final class EdgesTold {
         panePlaces();
         blockedAtFirst();
         nestDays();
+        nestPlaces();
         nests20();
         stopsAreColumns();
         openAtFirst();
@@ -184,6 +185,10 @@ final class EdgesTold {
                 Edge.is("on the last day", 7, x.reach(0, 1, 3, to));
                 if (from > 0) Edge.is("ahead of it", 8, x.reach(0, 1, 3, from - 1));
                 if (to < 99) Edge.is("behind it", 8, x.reach(0, 1, 3, to + 1));
+                for (int t : new int[] {0, 1, 5}) for (int s = 0; s < 4; s++) for (int c = 0; c < 3; c++) {
+                    boolean its = t == 0 && s == 1 && c == 2;
+                    Edge.is("on other sides and roofs", (t == 0 ? 8 : t == 1 ? c == 2 ? 10 : 20 : 24) - (its ? 1 : 0), x.reach(t, s, c, from));
+                }
             }
         }
         Edge.refused("from above to by one", Start.BUSY, x -> x.nest(0, 0, 1, 2, 5, 4));
@@ -197,6 +202,22 @@ final class EdgesTold {
         for (int s : Edge.beyond(0, 3)) Edge.refused("side " + s, Start.BUSY, x -> x.nest(0, s, 0, 0, 0, 9));
         for (int f : Edge.beyond(0, 3)) Edge.refused("floor " + f, Start.BUSY, x -> x.nest(0, 0, f, 0, 0, 9));
         for (int c : Edge.beyond(0, 4)) Edge.refused("column " + c, Start.BUSY, x -> x.nest(0, 0, 0, c, 0, 9));
+    }
+
+    private static void nestPlaces() {
+        Edge.promise(4, "A NEST: true; false: others (from above to).");
+        for (int t : Edge.ends(0, 5)) for (int s : Edge.ends(0, 3)) for (int f : Edge.ends(0, 11)) for (int c : Edge.ends(0, 9)) {
+            MenOnCradles x = Start.NEW.times(6, (y, i) -> y.tower(i, 12, 10)).make();
+            Edge.yes("a nest on " + t + " " + s + " " + f + " " + c, x.nest(t, s, f, c, 7, 7));
+            for (int tower = 0; tower < 6; tower++) for (int side = 0; side < 4; side++) for (int stop = 0; stop < 10; stop++) {
+                boolean there = tower == t && side == s && (stop == c || stop + 1 == c);
+                Edge.is("reach " + tower + " " + side + " " + stop, (stop == 9 ? 12 : 24) - (there ? 1 : 0), x.reach(tower, side, stop, 7));
+            }
+            for (int side = 0; side < 4; side++) {
+                Edge.is("the reason of its pane", side == s ? 3 : 4, x.reason(t, side, f, c, 7, 1));
+                Edge.is("the reason of the pane on another roof", 4, x.reason(5 - t, side, f, c, 7, 1));
+            }
+        }
     }
 
     private static void nests20() {
