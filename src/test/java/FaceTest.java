@@ -1,9 +1,12 @@
+import java.lang.reflect.Array;
 import java.lang.reflect.Constructor;
 import java.lang.reflect.Field;
 import java.lang.reflect.Method;
 import java.lang.reflect.Modifier;
 import java.nio.file.Files;
 import java.nio.file.Path;
+import java.util.Collections;
+import java.util.IdentityHashMap;
 import java.util.Set;
 import java.util.TreeSet;
 import java.util.regex.Matcher;
@@ -100,10 +103,50 @@ public final class FaceTest {
         }
     }
 
+    /** Counts an object with all that it holds: how many objects and arrays, how many fields and elements. */
+    private static long[] roomOf(Object held, Set<Object> seen) throws Exception {
+        long[] room = new long[2];
+        if (held == null || held instanceof String || !seen.add(held)) return room;
+        room[0] = 1;
+        Class<?> c = held.getClass();
+        if (c.isArray()) {
+            int n = Array.getLength(held);
+            room[1] += n;
+            for (int i = 0; i < n && !c.getComponentType().isPrimitive(); i++) add(room, roomOf(Array.get(held, i), seen));
+        }
+        for (Field f : c.getDeclaredFields()) {
+            if (Modifier.isStatic(f.getModifiers())) continue;
+            f.setAccessible(true);
+            room[1]++;
+            if (!f.getType().isPrimitive()) add(room, roomOf(f.get(held), seen));
+        }
+        return room;
+    }
+
+    private static void add(long[] room, long[] more) {
+        room[0] += more[0];
+        room[1] += more[1];
+    }
+
+    private static long[] roomOf(MenOnCradles x) throws Exception {
+        return roomOf(x, Collections.newSetFromMap(new IdentityHashMap<>()));
+    }
+
+    /** The rows are made in the constructor; behind it a tower alone makes some: itself, and two rows of bits. */
+    private static void room() throws Exception {
+        long[] first = roomOf(new MenOnCradles());
+        Due.yes("objects and arrays of a new one: " + first[0], first[0] <= 150);
+        Due.yes("fields and elements of a new one: " + first[1], first[1] <= 13_000);
+        long[] busy = roomOf(Start.BUSY.make());
+        Due.due("objects and arrays for three towers", busy[0] - first[0], 3 * 3);
+        Due.yes("fields and elements for three towers: " + (busy[1] - first[1]), busy[1] - first[1] <= 3 * 60);
+    }
+
     public static void main(String[] args) throws Exception {
         face();
         sizes();
         words();
+        room();
         Due.end("FaceTest");
     }
 }
